@@ -364,41 +364,47 @@ public final class CellMapping {
             }
         }
 
-        /** Each cut of the node is one way to cut below its left node and one below its right node together. */
+        /**
+         * Each cut is one of the left node, or that node itself, together with one of the right node, or itself.
+         * None comes twice: had a cut two such parts for one node, a leaf that only one of them has could be left out.
+         */
         private void findCuts(int node, int leftNode, int rightNode) {
             for (int i = 0; i <= size(leftNode); i++) {
                 for (int j = 0; j <= size(rightNode); j++) {
-                    int candidate = wayToCut(leftNode, i) | wayToCut(rightNode, j);
-                    if (Integer.bitCount(candidate) <= MAX_LEAVES && !holdsCut(node, candidate)) {
-                        dropCutsHolding(node, candidate);
+                    int candidate = cutOrItself(leftNode, i) | cutOrItself(rightNode, j);
+                    if (Integer.bitCount(candidate) <= MAX_LEAVES && isSmallest(node, candidate)) {
                         insertCut(node, candidate);
                     }
                 }
             }
         }
 
-        private int wayToCut(int node, int i) {
+        private int cutOrItself(int node, int i) {
             return i < size(node) ? leavesAt(node, i) : 1 << node;
         }
 
-        private boolean holdsCut(int node, int candidate) {
-            for (int i = start[node]; i < start[node + 1]; i++) {
-                if ((leaves[i] & ~candidate) == 0) {
-                    return true;
+        /** Whether a set that is met on all ways is not so without any one of its nodes: then no part of it is. */
+        private boolean isSmallest(int node, int candidate) {
+            for (int n = 0; n < node; n++) {
+                if ((candidate >>> n & 1) == 1 && isMet(node, candidate ^ 1 << n)) {
+                    return false;
                 }
             }
-            return false;
+            return true;
         }
 
-        private void dropCutsHolding(int node, int candidate) {
-            int kept = start[node];
-            for (int i = start[node]; i < start[node + 1]; i++) {
-                if ((candidate & ~leaves[i]) != 0) {
-                    leaves[kept] = leaves[i];
-                    kept++;
+        /** Whether each way from the node down to an input meets the set. */
+        private boolean isMet(int node, int set) {
+            int reached = 1 << node;
+            for (int n = node; n >= 0; n--) {
+                if (((reached & ~set) >>> n & 1) == 1) {
+                    if (graph.isInput(n)) {
+                        return false;
+                    }
+                    reached |= 1 << (graph.left[n] >> 1) | 1 << (graph.right[n] >> 1);
                 }
             }
-            start[node + 1] = kept;
+            return true;
         }
 
         private void insertCut(int node, int candidate) {

@@ -9,6 +9,7 @@ public final class GraphTest {
         valuesOfLateInputs();
         counts();
         clear();
+        clearedGates();
         throwingChangesNothing();
         Checks.end();
     }
@@ -180,6 +181,31 @@ public final class GraphTest {
         Checks.due("first output again", x.output(1), 0);
         Checks.due("worst again", x.worst(), 0);
         Checks.due("area again", x.area(), 7);
+    }
+
+    /** What was asked of a node before clear() does not stay with the node of the same number. */
+    private static void clearedGates() {
+        CellMapping x = new CellMapping();
+        x.input();
+        x.input();
+        x.and(0, 2);
+        x.cell(1, 1, 1);
+        x.cell(2, 8, 1);
+        x.arrives(0, 5);
+        x.delay(0, 0, 2);
+        Checks.due("turned before clear", x.arrival(1), 7);
+        Checks.due("and before clear", x.arrival(4), 5);
+        x.clear();
+        x.input();
+        Checks.due("turned after clear", x.arrival(1), -1);
+        x.input();
+        x.and(3, 3);
+        x.cell(1, 1, 1);
+        Checks.due("and after clear", x.arrival(4), 0);
+        Checks.due("its cell", x.gate(4, 0), 0);
+        Checks.due("its pin", x.gate(4, 1), 2);
+        Checks.due("its cuts", x.cut(2, 0), 2);
+        Checks.due("its function", x.function(2, 0), 1);
     }
 
     private static void throwingChangesNothing() {
