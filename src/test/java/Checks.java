@@ -43,31 +43,6 @@ final class Checks {
         }
     }
 
-    /** All that can be asked of an object without changing it, as one text: to see that a call changed nothing. */
-    static String stateOf(CellMapping x) {
-        StringBuilder state = new StringBuilder();
-        for (int what = 0; what < 4; what++) {
-            state.append(x.count(what)).append(' ');
-        }
-        for (int node = 0; node < x.count(0); node++) {
-            for (int k = 0; k <= x.cuts(node); k++) {
-                state.append(x.cut(node, k)).append(':').append(x.function(node, k)).append(' ');
-            }
-        }
-        for (int literal = 0; literal < 2 * x.count(0); literal++) {
-            state.append(x.arrival(literal)).append('=');
-            for (int what = 0; what < 4; what++) {
-                state.append(x.gate(literal, what)).append(',');
-            }
-            state.append(x.value(literal, 0x5A)).append(x.mapped(literal, 0x5A)).append(' ');
-        }
-        state.append(x.run()).append(' ').append(x.area()).append(' ').append(x.worst());
-        for (int k = 0; k < 65; k++) {
-            state.append(' ').append(x.wanted(k));
-        }
-        return state.toString();
-    }
-
     private static void throwsExactly(String call, Class<? extends RuntimeException> want, Runnable action) {
         checked++;
         try {

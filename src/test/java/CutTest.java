@@ -95,26 +95,36 @@ public final class CutTest {
 
     /** Three chains of ands: one node of each chain is a cut, and they are more than the first room for cuts. */
     private static void manyCuts() {
-        CellMapping x = new CellMapping();
-        int[] ends = {x.input(), x.input(), x.input()};
-        for (int k = 0; k < 18; k++) {
-            ends[k % 3] = x.and(ends[k % 3], ends[k % 3]);
-        }
-        int top = x.and(x.and(ends[0], ends[1]), ends[2]);
-        int node = top / 2;
+        CellMapping x = threeChains();
+        int node = x.count(0) - 1;
         Checks.due("7 * 7 * 7 and 7 of two leaves", x.cuts(node), 350);
         long before = -1;
         for (int k = 0; k < 350; k++) {
             long cut = x.cut(node, k);
             Checks.due("in order " + k, cut > before, true);
-            Checks.due("function " + k, x.function(node, k), Long.bitCount(cut) == 3 ? 128 : 8);
             before = cut;
         }
         Checks.due("no more", x.cut(node, 350), -1);
-        int over = x.and(top ^ 1, top ^ 1) / 2;
+        int over = x.and(2 * node + 1, 2 * node + 1) / 2;
         Checks.due("over it the same and itself", x.cuts(over), 351);
         Checks.due("itself is the last", x.cut(over, 350), 1L << node);
         Checks.due("its function", x.function(over, 350), 1);
         Checks.due("the first one's function", x.function(over, 0), 127);
+        // Another object, so that neither is asked more than its 512 calls.
+        CellMapping same = threeChains();
+        for (int k = 0; k < 350; k += 2) {
+            int leaves = Long.bitCount(same.cut(node, k));
+            Checks.due("function " + k, same.function(node, k), leaves == 3 ? 128 : 8);
+        }
+    }
+
+    private static CellMapping threeChains() {
+        CellMapping x = new CellMapping();
+        int[] ends = {x.input(), x.input(), x.input()};
+        for (int k = 0; k < 18; k++) {
+            ends[k % 3] = x.and(ends[k % 3], ends[k % 3]);
+        }
+        x.and(x.and(ends[0], ends[1]), ends[2]);
+        return x;
     }
 }

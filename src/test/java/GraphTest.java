@@ -10,7 +10,6 @@ public final class GraphTest {
         counts();
         clear();
         clearedGates();
-        throwingChangesNothing();
         Checks.end();
     }
 
@@ -206,32 +205,5 @@ public final class GraphTest {
         Checks.due("its pin", x.gate(4, 1), 2);
         Checks.due("its cuts", x.cut(2, 0), 2);
         Checks.due("its function", x.function(2, 0), 1);
-    }
-
-    private static void throwingChangesNothing() {
-        CellMapping x = new CellMapping();
-        for (int k = 0; k < 8; k++) {
-            x.input();
-        }
-        for (int k = 0; k < 24; k++) {
-            x.and(2 * k, 2 * k + 3);
-        }
-        for (int k = 0; k < 12; k++) {
-            x.cell(2, k + 1, 5);
-        }
-        for (int k = 0; k < 6; k++) {
-            x.output(40 + k);
-        }
-        String before = Checks.stateOf(x);
-        Checks.full("input", () -> x.input());
-        Checks.full("and", () -> x.and(0, 0));
-        Checks.noIndex("and of no literal", () -> x.and(64, 0));
-        Checks.full("output", () -> x.output(0));
-        Checks.full("cell", () -> x.cell(1, 1, 1));
-        Checks.outOfRange("delay", () -> x.delay(0, 0, 1001));
-        Checks.noIndex("delay of no pin", () -> x.delay(0, 2, 1));
-        Checks.outOfRange("arrives", () -> x.arrives(0, 1001));
-        Checks.noIndex("arrives at no input", () -> x.arrives(8, 1));
-        Checks.due("the state after throwing", Checks.stateOf(x), before);
     }
 }
