@@ -16,6 +16,8 @@ public final class ArrivalTest {
         constantsAndWires();
         leavesOneAboveTheOther();
         threeLeaves();
+        sixOrders();
+        eightTurns();
         changesCountAtOnce();
         wrongInputs();
         Checks.end();
@@ -249,6 +251,40 @@ public final class ArrivalTest {
         dueGate("turned by turning the outcome, or both", x, not, 9, 0, 1, 3, 4);
         x.delay(0, 2, 100);
         dueGate("pin 2 is late", x, not ^ 1, 100, 0, 0, 2, 4);
+    }
+
+    /** First and not (second and not third): without turned inputs each leaf has one pin where it fits. */
+    private static void sixOrders() {
+        int[] orders = {0, 2, 4, 0, 4, 2, 2, 0, 4, 2, 4, 0, 4, 0, 2, 4, 2, 0};
+        for (int i = 0; i < orders.length; i += 3) {
+            CellMapping x = withInputs(3);
+            int inner = x.and(orders[i + 1], orders[i + 2] + 1);
+            int outer = x.and(orders[i], inner + 1);
+            x.cell(3, 0xA2, 1);
+            x.delay(0, 0, 1);
+            x.delay(0, 1, 20);
+            x.delay(0, 2, 300);
+            x.arrives(orders[i + 1] / 2, 500);
+            dueGate("order " + i / 3, x, outer, 520, 0, orders[i], orders[i + 1], orders[i + 2]);
+        }
+    }
+
+    /** The same with turned inputs: second and third may change places when both are turned. */
+    private static void eightTurns() {
+        for (int turns = 0; turns < 8; turns++) {
+            int first = turns & 1;
+            int second = 2 + (turns >> 1 & 1);
+            int third = 4 + (turns >> 2 & 1);
+            CellMapping x = withInputs(3);
+            int inner = x.and(second, third ^ 1);
+            int outer = x.and(first, inner ^ 1);
+            x.cell(3, 0xA2, 1);
+            x.cell(1, NOT, 1);
+            dueGate("the lesser at pin 1, turns " + turns, x, outer, 0, 0, first, second, third);
+            x.arrives(1, 10);
+            x.delay(0, 1, 5);
+            dueGate("the late one at pin 2, turns " + turns, x, outer, 10, 0, first, third ^ 1, second ^ 1);
+        }
     }
 
     private static void changesCountAtOnce() {

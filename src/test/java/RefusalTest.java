@@ -33,6 +33,7 @@ public final class RefusalTest {
             questionsOfLiterals(shape);
             otherQuestions(shape);
         }
+        namedFirst();
         manyRefusals();
         Checks.end();
     }
@@ -146,6 +147,21 @@ public final class RefusalTest {
                 noIndex(shape, "count(" + k + ")", x -> x.count(k));
             }
         }
+    }
+
+    /** The same told one by one, for each method that can refuse for two reasons: both hold, and one of them comes. */
+    private static void namedFirst() {
+        CellMapping x = new Shape(8, 24, 6, 12).make();
+        Checks.noIndex("and: no literal at the left, before no room", () -> x.and(64, 0));
+        Checks.noIndex("and: no literal at the right, before no room", () -> x.and(0, -1));
+        Checks.noIndex("output: no literal, before no room", () -> x.output(64));
+        Checks.full("cell: no room, before no such pins", () -> x.cell(4, 0, 1));
+        Checks.full("cell: no room, before no such truth", () -> x.cell(1, 4, 1));
+        Checks.full("cell: no room, before no such area", () -> x.cell(1, 1, 0));
+        Checks.noIndex("delay: no cell, before no such delay", () -> x.delay(12, 0, 1001));
+        Checks.noIndex("delay: no pin, before no such delay", () -> x.delay(0, 1, -1));
+        Checks.noIndex("arrives: no input, before no such time", () -> x.arrives(8, 1001));
+        Checks.noIndex("arrives: no input below either, before no such time", () -> x.arrives(-1, -1));
     }
 
     /** One refusal after the other does no more than one alone: what comes next has the number that was due before. */
