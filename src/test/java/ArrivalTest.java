@@ -211,6 +211,12 @@ public final class ArrivalTest {
         dueGate("always by a cell", x, 3, 0, 2, 0);
         x.arrives(0, 8);
         dueGate("the input counts", x, 3, 8, 2, 0);
+        CellMapping other = withInputs(3);
+        other.and(0, 2);
+        other.and(4, 5);
+        other.cell(1, 0, 3);
+        other.cell(2, AND, 3);
+        dueGate("what never comes still has its own leaf at the pin", other, 8, 0, 0, 4);
     }
 
     /** Leaves are free: a cell fits by all their values, also by those that the graph never has. */
