@@ -366,7 +366,8 @@ public final class CellMapping {
 
         /**
          * Each cut is one of the left node, or that node itself, together with one of the right node, or itself.
-         * None comes twice: had a cut two such parts for one node, a leaf that only one of them has could be left out.
+         * None comes twice: from each leaf of a smallest cut a way goes down that meets no other leaf, so the leaves
+         * that the ways from one of the two nodes meet first must all be in its part, and are that part alone.
          */
         private void findCuts(int node, int leftNode, int rightNode) {
             for (int i = 0; i <= size(leftNode); i++) {
